@@ -239,7 +239,7 @@ public final class FaceRows {
         Mind mind = minds[mindCount];
         mind.setSight(head, kin, seen, secs, light, fear);
         mind.sight = now;
-        see(mind);
+        see(mind, typeOfSeen(mind));
         mindCount++;
         return mindCount - 1;
     }
@@ -618,13 +618,12 @@ public final class FaceRows {
 
     // ---- what becomes of a memory
 
-    private void see(Mind mind) {
-        Face seen = faces[mind.seen];
-        System.arraycopy(types[seen.kin], 0, mind.type, 0, NUMBERS);
-        takeIn(mind);
+    private int[] typeOfSeen(Mind mind) {
+        return types[faces[mind.seen].kin];
     }
 
-    private void takeIn(Mind mind) {
+    private void see(Mind mind, int[] type) {
+        System.arraycopy(type, 0, mind.type, 0, NUMBERS);
         mind.days = 0;
         int blur = ask(mind, BLUR);
         int[] seen = faces[mind.seen].numbers;
@@ -804,7 +803,7 @@ public final class FaceRows {
         Mind mind = bench.mind;
         mind.copySight(told.mind);
         mind.told = 0;
-        see(mind);
+        see(mind, typeOfSeen(mind));
         if (way.drawnRow != NONE && rows[way.drawnRow].countFaces() > 0) {
             compose(mind, rows[way.drawnRow]);
             mind.pullTo(bench.composed, ask(mind, PULL));
@@ -896,8 +895,7 @@ public final class FaceRows {
         Mind real = minds[last.witness];
         mind.copySight(real);
         mind.told = real.told;
-        System.arraycopy(real.type, 0, mind.type, 0, NUMBERS);
-        takeIn(mind);
+        see(mind, real.type);
         for (int d = 0; d < deedCount; d++) {
             int deed = deeds[d];
             if (whoseDeed(deed) == last.witness) {
@@ -1611,17 +1609,15 @@ public final class FaceRows {
                     }
                 } else if (top >= 2) {
                     top--;
-                    values[top - 1] = join(step, values[top - 1], values[top]);
+                    int other = values[top];
+                    if (step == STEP_TIMES) {
+                        values[top - 1] *= other;
+                    } else {
+                        values[top - 1] += step == STEP_PLUS ? other : -other;
+                    }
                 }
             }
             return values[0];
-        }
-
-        private static int join(int step, int one, int other) {
-            if (step == STEP_TIMES) {
-                return one * other;
-            }
-            return step == STEP_PLUS ? one + other : one - other;
         }
     }
 
