@@ -824,6 +824,10 @@ public final class PromisesTest {
         due("face -1", x.score(-1), -1);
         text(x, 1, 0, "no 0 = 5; no 0 = 5;");
         due("the same twice", x.score(0), 2);
+        text(x, 1, 0, "no 0 = 0;".repeat(11) + "no 0 = 5;");
+        due("the twelfth", x.score(0), 1);
+        text(x, 1, 0, "no 0 > 5;no 16 = 0;");
+        due("as it was, after a fault", x.score(0), 1);
     }
 
     // Promise 24
@@ -883,6 +887,7 @@ public final class PromisesTest {
             x.put(1, 1);
         }
         due("eight of nine, the least set", x.fillers(1, 0, 8), 255);
+        due("nine of nine", x.fillers(1, 0, 9), -1);
         due("the same face at each place", x.fillers(1, 1, 1), -1);
     }
 
