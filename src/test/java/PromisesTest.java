@@ -1,10 +1,5 @@
-import java.nio.charset.StandardCharsets;
-
 /** Each promise of the document, with answers worked out by hand from its words. */
-public final class PromisesTest {
-    private static int wrong;
-    private static int checks;
-
+public final class PromisesTest extends Checks {
     public static void main(String[] args) {
         aNewObject();
         face();
@@ -41,51 +36,7 @@ public final class PromisesTest {
         spoilt();
         both();
         look();
-        System.out.println("PromisesTest: " + checks + " checks, " + wrong + " wrong");
-        if (wrong != 0) {
-            System.exit(1);
-        }
-    }
-
-    private static void due(String what, long got, long want) {
-        checks++;
-        if (got != want) {
-            wrong++;
-            System.out.println(what + ": answered " + got + ", due is " + want);
-        }
-    }
-
-    private static void due(String what, boolean got, boolean want) {
-        due(what, got ? 1 : 0, want ? 1 : 0);
-    }
-
-    /** A face with sixteen times the same number. */
-    private static int flat(FaceRows x, int kin, int v) {
-        return x.face(kin, v * 0x01010101, v * 0x01010101, v * 0x01010101, v * 0x01010101);
-    }
-
-    private static int text(FaceRows x, int sort, int k, String text) {
-        tape(x, text);
-        return x.text(sort, k);
-    }
-
-    private static void tape(FaceRows x, String text) {
-        byte[] bytes = text.getBytes(StandardCharsets.ISO_8859_1);
-        x.end(0);
-        for (int i = 0; i < bytes.length; i += 20) {
-            int[] five = new int[5];
-            for (int j = 0; j < 20; j++) {
-                five[j / 4] |= (i + j < bytes.length ? bytes[i + j] & 255 : 'z') << 24 - 8 * (j % 4);
-            }
-            x.feed(five[0], five[1], five[2], five[3], five[4]);
-        }
-        due("end of '" + text + "'", x.end(bytes.length), true);
-    }
-
-    private static void fault(FaceRows x, int sort, String text, int fault, int place) {
-        due("text of '" + text + "'", text(x, sort, 0, text), -1);
-        due("fault of '" + text + "'", x.fault(0), fault);
-        due("its place in '" + text + "'", x.fault(1), place);
+        finish("PromisesTest");
     }
 
     /** What a line of a head comes to for a witness of 20 seconds, light 3, fear 5: read off as the far of a face. */
@@ -96,13 +47,6 @@ public final class PromisesTest {
         due("lines of far " + sum, text(x, 0, 1, "far " + sum + ";"), 1);
         x.witness(1, 0, 0, 20, 3, 5);
         due("far " + sum, x.far(0, 1), want);
-    }
-
-    private static void row(FaceRows x, int row, int... faces) {
-        x.clear(row);
-        for (int face : faces) {
-            x.put(row, face);
-        }
     }
 
     // Promise 1
